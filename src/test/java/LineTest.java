@@ -5,6 +5,8 @@ public final class LineTest {
         type();
         wipe();
         readingEmptiesTheLine();
+        fullLines();
+        anOldLineIsForgotten();
         otherCallsKeepTheLine();
         Due.end();
     }
@@ -82,6 +84,37 @@ public final class LineTest {
         for (int i = 0; i < want.length; i++) {
             Due.due("emptied line, answer " + i, answers[i], want[i]);
         }
+    }
+
+    private static void fullLines() {
+        String[] starts = {"1", "a", "a:1", "a:[1", "a:(1,1", "a:[,1", "a:[1]", "a:[1,2]", ":", "1:1"};
+        String[] fillings = {"1", "a", ",", ":"};
+        for (String start : starts) {
+            for (String filling : fillings) {
+                Run run = Run.of("a:1");
+                run.need(0, "b:1");
+                String line = start + filling.repeat(40 - start.length());
+                Due.due("publish " + line, run.publish(line), -3);
+                Due.due("depend " + line, run.need(0, line), -3);
+                Due.due("exclude " + line, run.exclude(0, line), -3);
+                Due.due("compare " + line, run.compare(line), -3);
+                Due.due("resolve " + line, run.resolve(line), -3);
+            }
+        }
+    }
+
+    private static void anOldLineIsForgotten() {
+        Run run = Run.of("a:1");
+        run.need(0, "b:[1,2]");
+        Due.due("the old line had the bracket", run.need(0, "b:[1,2"), -3);
+        Due.due("the old line had the bound", run.need(0, "b:[1,"), -3);
+        Due.due("the old line had the version", run.publish("b:"), -3);
+        Due.due("the old line had the colon", run.publish("b"), -3);
+        run.compare("1:234");
+        Due.due("the old version was longer", run.compare("3:2"), 4);
+        Due.due("the old line had the colon", run.compare("1"), -3);
+        run.typed("abc").x.wipe();
+        Due.due("nothing of a wiped line", run.exclude(0, ""), -3);
     }
 
     private static void otherCallsKeepTheLine() {

@@ -9,6 +9,8 @@ public final class RandomRunsTest {
 
     private final Random random;
     private final int names;
+    /** In a calm run most lines are right and most ranges wide, so that RESULTS grow large. */
+    private final boolean calm;
     private final LayeredLauncher x = new LayeredLauncher();
     private final PlainModel model = new PlainModel();
     private int calls = 0;
@@ -21,6 +23,7 @@ public final class RandomRunsTest {
         this.run = run;
         random = new Random(run);
         names = 2 + random.nextInt(8);
+        calm = random.nextBoolean();
     }
 
     public static void main(String[] args) {
@@ -36,7 +39,7 @@ public final class RandomRunsTest {
     }
 
     private void drive() {
-        int publishing = 40 + random.nextInt(200);
+        int publishing = calm ? 12 * names : 40 + random.nextInt(200);
         while (calls < CALLS) {
             if (calls < publishing) {
                 publishOne();
@@ -47,6 +50,10 @@ public final class RandomRunsTest {
     }
 
     private void anyStep() {
+        if (calm && random.nextInt(3) == 0) {
+            dependOne();
+            return;
+        }
         switch (random.nextInt(16)) {
             case 0 -> publishOne();
             case 1, 2, 3 -> dependOne();
@@ -89,7 +96,7 @@ public final class RandomRunsTest {
     }
 
     private void retireOne() {
-        if (random.nextInt(3) == 0) {
+        if (random.nextInt(calm ? 9 : 3) == 0) {
             int artifact = artifact();
             due("retire " + artifact, x.retire(artifact), model.retire(artifact));
         }
@@ -157,6 +164,9 @@ public final class RandomRunsTest {
     }
 
     private String version() {
+        if (calm && random.nextInt(8) != 0) {
+            return VERSIONS[random.nextInt(2)];
+        }
         if (random.nextInt(12) != 0) {
             return VERSIONS[random.nextInt(random.nextBoolean() ? 3 : VERSIONS.length)];
         }
@@ -168,6 +178,9 @@ public final class RandomRunsTest {
     }
 
     private String range() {
+        if (calm && random.nextInt(3) != 0) {
+            return random.nextBoolean() ? "(,)" : "1";
+        }
         String low = random.nextInt(4) == 0 ? "" : version();
         String high = random.nextInt(3) == 0 ? "" : version();
         return switch (random.nextInt(6)) {
@@ -182,7 +195,7 @@ public final class RandomRunsTest {
     /** Types a line, now and then with a wrong character in it; false if the run's calls are used up. */
     private boolean typed(String line) {
         String text = line;
-        if (random.nextInt(40) == 0 && !line.isEmpty()) {
+        if (random.nextInt(calm ? 200 : 40) == 0 && !line.isEmpty()) {
             int i = random.nextInt(line.length());
             text = line.substring(0, i) + "A:,[(])z 0.-\u00ff".charAt(random.nextInt(13)) + line.substring(i + random.nextInt(2));
         }

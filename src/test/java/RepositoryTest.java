@@ -47,6 +47,11 @@ public final class RepositoryTest {
             Due.due("publish number " + i, run.publish("a:" + i), i);
         }
         Due.due("20 there", run.publish("b:1"), -2);
+        Due.due("the line is empty after FULL", run.x.count(2), 0);
+        Due.due("no artifact 20: text", run.x.text(20, 0), -1);
+        Due.due("no artifact 20: pack", run.x.pack(20, 0, true), -1);
+        Due.due("no artifact 20: retire", run.x.retire(20), -1);
+        Due.due("no artifact 20: depend", run.need(20, "b:1"), -1);
         Due.due("20 there, an EQUAL one among them", run.publish("a:19.0"), -1);
         Due.due("20 there, wrong line", run.publish("b"), -3);
         run.x.retire(19);
@@ -65,6 +70,7 @@ public final class RepositoryTest {
             Due.due("depend, place " + k, run.need(0, "b:1"), k);
         }
         Due.due("depend, 6 there", run.need(0, "b:1"), -2);
+        Due.due("the line is empty after FULL", run.x.count(2), 0);
         Due.due("depend, 6 there and a wrong line", run.need(0, "b:"), -3);
         Due.due("the others have their own", run.mayNeed(1, "a:1"), 0);
         run.x.retire(1);
@@ -109,6 +115,7 @@ public final class RepositoryTest {
         Due.due("exclude the same again", run.exclude(0, "c"), 0);
         Due.due("exclude the third", run.exclude(0, "abcdefgh"), 0);
         Due.due("exclude, 3 there", run.exclude(0, "c"), -2);
+        Due.due("the line is empty after FULL", run.x.count(2), 0);
         Due.due("exclude, 3 there, wrong line", run.exclude(0, "c1"), -3);
         run.need(0, "c:1");
         Due.due("exclude at the new last dependency", run.exclude(0, "d"), 0);

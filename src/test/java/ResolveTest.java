@@ -9,6 +9,7 @@ public final class ResolveTest {
         missing();
         optional();
         exclusions();
+        threeExclusions();
         inheritedExclusions();
         culpritIsKept();
         twentyEntries();
@@ -78,6 +79,7 @@ public final class ResolveTest {
         Due.due("a RANGE that holds the entry's version", run.resolve("a:1"), 3);
         run.need(1, "c:[1]");
         Due.due("[v] is no WISH", run.resolve("a:1"), -5);
+        Due.due("the line is empty after CONFLICT", run.x.count(2), 0);
         Due.due("culprit", run.x.culprit(), 8 + 3);
         run.dueEntries("the RESULT stays", "0 3 1");
     }
@@ -141,6 +143,21 @@ public final class ResolveTest {
         Due.due("culprit", run.x.culprit(), 8);
         run.exclude(0, "b");
         Due.due("an exclusion bars at the picked entry, not there", run.resolve("a:1"), 4);
+    }
+
+    private static void threeExclusions() {
+        String[] names = {"c", "d", "e"};
+        for (String name : names) {
+            Run run = Run.of("a:1", "b:1", "f:1");
+            run.need(0, "b:1");
+            run.exclude(0, "c");
+            run.exclude(0, "d");
+            run.exclude(0, "e");
+            run.need(1, name + ":1");
+            run.need(1, "f:1");
+            Due.due("each of three is barred, no other is: " + name, run.resolve("a:1"), 3);
+            run.dueEntries("f is there", "0 1 2");
+        }
     }
 
     private static void inheritedExclusions() {
