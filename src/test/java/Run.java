@@ -52,7 +52,15 @@ final class Run {
     }
 
     void dueEntries(String what, String want) {
-        String got = entries();
-        Due.due(what + ": entries " + got + " are " + want, got.equals(want) ? 1 : 0, 1);
+        Due.due(what + ": entries", entries(), want);
+    }
+
+    /** Name, colon and version of an artifact, as text tells them. */
+    String text(int artifact) {
+        StringBuilder characters = new StringBuilder();
+        for (int i = 0; i < x.text(artifact, -1); i++) {
+            characters.append((char) x.text(artifact, i));
+        }
+        return characters.toString();
     }
 }
