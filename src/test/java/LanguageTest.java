@@ -114,7 +114,8 @@ public final class LanguageTest extends TreePathScanner<Void, Void> {
         boolean outermost = getCurrentPath().getParentPath().getLeaf() == unit;
         Set<Modifier> modifiers = made.getModifiers();
         if (!outermost) {
-            rule(2, made + " is static and stands in the class", modifiers.contains(Modifier.STATIC));
+            rule(2, made + " is static", modifiers.contains(Modifier.STATIC));
+            rule(2, made + " is not local", made.getEnclosingElement() instanceof TypeElement);
             rule(1, made + " is not visible outside", !modifiers.contains(Modifier.PUBLIC) && !modifiers.contains(Modifier.PROTECTED));
         }
         long fields = tree.getMembers().stream().filter(m -> m.getKind() == Tree.Kind.VARIABLE)
